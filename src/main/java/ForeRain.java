@@ -216,7 +216,7 @@ public final class ForeRain {
         }
         int steps = stepsWithoutRain();
         if (steps == NONE) {
-            return what;
+            return what == 0 ? 0 : 1;
         }
         if (steps > ODDS_STEPS) {
             return STATE;
@@ -584,14 +584,14 @@ public final class ForeRain {
 
     /** The text, and how it is read. Nothing that it finds counts before all of it is right. */
     private static final class Reader {
-        static final int END = 0;
-        static final int WORD = 1;
-        static final int NUMBER = 2;
-        static final int SEMICOLON = 3;
-        static final int WRONG = 4;
-        static final int NO_FAULT = -1;
+        private static final int END = 0;
+        private static final int WORD = 1;
+        private static final int NUMBER = 2;
+        private static final int SEMICOLON = 3;
+        private static final int WRONG = 4;
+        private static final int NO_FAULT = -1;
 
-        final byte[] bytes = new byte[MOST_BYTES];
+        private final byte[] bytes = new byte[MOST_BYTES];
         final Told found = new Told();
         int length;
         private int next;

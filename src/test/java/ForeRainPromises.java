@@ -177,6 +177,8 @@ public final class ForeRainPromises {
         fault("piece 1 1 1 ", 12);
         fault("pieces 1 1 1;", 0);
         fault(" piec 1 1 1;", 1);
+        fault("tiece 1 1 1;", 0);
+        fault("run 1 1;", 0);
         fault("Piece 1 1 1;", 0);
         fault("pieceX 1 1 1;", 5);
         fault("piece 0 1 1;", 6);
@@ -353,6 +355,13 @@ public final class ForeRainPromises {
         y.hang(0, 0);
         due(11, "go(2) with WATER at most", y.go(2), 9);
         due(11, "WATER", y.piece(0, 0), 0);
+        ForeRain z = told("piece 99 1 3;piece 99 1 1;spot 1 9;spot 1 0;sun 9 1;");
+        z.hang(0, 0);
+        z.hang(1, 1);
+        z.go(1);
+        due(11, "DAMP 63 / 8", z.now(1), 7);
+        due(11, "more DAMP than sun and wind: 20 and none", z.go(1), 20);
+        due(11, "WATER as it was", z.piece(1, 0), 90);
     }
 
     private static void raining() {
@@ -401,6 +410,8 @@ public final class ForeRainPromises {
         y.go(1);
         due(11, "AGE of a DRY one", y.piece(0, 3), 0);
         due(11, "it SMELLS all the same", y.piece(0, 4), 1);
+        due(12, "how many are DRY: PIECE 0", y.now(4), 1);
+        due(12, "how many SMELL: PIECE 0", y.now(5), 1);
     }
 
     private static void goingToTheEnd() {
@@ -594,6 +605,21 @@ public final class ForeRainPromises {
         ForeRain r = told("piece 2 1 1;spot 1 1;sun 1 1;rain 1 1;");
         r.hang(0, 0);
         due(18, "rain behind it", r.odds(1, 3, 0), 2);
+        ForeRain s = told("piece 5 1 1;piece 5 1 1;spot 1 1;spot 1 9;sun 0 2;rain 1 1;");
+        s.hang(0, 0);
+        due(18, "a little rain on the way: upper", s.odds(1, 3, 0), 0);
+        due(18, "a little rain on the way: lower", s.odds(1, 3, 1), 1);
+        s.hang(0, 1);
+        due(18, "SUN 0 is no rain", s.odds(1, 3, 1), 3);
+        ForeRain t = told("piece 99 1 1;spot 1 1;rain 1 1;sun 0 1;");
+        t.hang(0, 0);
+        t.go(2);
+        due(18, "99 STEPS", t.odds(1, 3, 1), STATE);
+        t.anew();
+        t.hang(0, 0);
+        t.go(1);
+        due(18, "100 STEPS: upper", t.odds(1, 3, 0), 0);
+        due(18, "100 STEPS: lower", t.odds(1, 3, 1), 1);
     }
 
     private static void roomForMore() {
@@ -646,12 +672,16 @@ public final class ForeRainPromises {
         due(22, "held(2, 0, 0)", x.held(2, 0, 0), BAD);
         due(22, "held(0, -1, 0)", x.held(0, -1, 0), BAD);
         due(22, "held(0, 0, 2)", x.held(0, 0, 2), BAD);
+        due(22, "held(-1, 0, 0)", x.held(-1, 0, 0), BAD);
+        due(22, "held(0, 2, 0)", x.held(0, 2, 0), BAD);
+        due(22, "held(0, 0, -1)", x.held(0, 0, -1), BAD);
         due(22, "held(0, 1, 1)", x.held(0, 1, 1), 1);
         due(24, "better(): THE WEST", x.better(), 1);
         due(25, "THE BOX never said so", x.trust(0, 0), STATE);
         due(25, "trust(2, 0): BAD", x.trust(2, 0), BAD);
         due(25, "trust(0, 2): BAD ahead of STATE", x.trust(0, 2), BAD);
         due(25, "trust(-1, 0)", x.trust(-1, 0), BAD);
+        due(25, "trust(1, -1)", x.trust(1, -1), BAD);
         due(25, "trust(1, 1)", x.trust(1, 1), 1);
         due(22, "held(1, 1, 0)", x.held(1, 1, 0), 2);
         due(25, "THE BOX: 0 of 1, upper", x.trust(0, 0), 0);
