@@ -234,6 +234,12 @@ public final class ForeRainForetoldEdges {
         Due.is("where(23, -1)", late.where(23, -1), 9);
         Due.is("where(24, 0): the last counts", late.where(24, 0), 0);
         Due.is("where(24, -1)", late.where(24, -1), 4);
+        ForeRain ahead = Probe.told("piece 9 1 1;piece 9 1 1;spot 1 4;spot 1 3;sun 0 1;rain 9 1;");
+        Due.is("where(1, -1): RAIN behind it does not count", ahead.where(1, -1), 18 - 7);
+        Due.is("where(1, 0)", ahead.where(1, 0), 0);
+        Due.is("where(1, 1)", ahead.where(1, 1), 1);
+        Due.is("where(2, -1): now it does", ahead.where(2, -1), 18);
+        Due.is("where(2, 0)", ahead.where(2, 0), BASKET);
         // the air is damp NOW: 54 was lost, DAMP 6
         ForeRain damp = Probe.told("piece 99 1 3;piece 9 1 1;spot 1 9;spot 1 6;sun 9 1;");
         damp.hang(0, 0);
@@ -267,6 +273,15 @@ public final class ForeRainForetoldEdges {
         Due.is("order(9, -1)", five.order(9, -1), 502 + 9 * 20);
         Due.is("order(0, -1)", five.order(0, -1), BAD);
         Due.is("order(10, -1)", five.order(10, -1), BAD);
+        ForeRain middle = Probe.told("piece 99 1 1;piece 99 3 1;piece 99 2 1;spot 9 0;spot 9 0;spot 9 0;");
+        for (int i = 0; i <= 2; i++) {
+            middle.hang(i, i);
+        }
+        int[] widestFirst = {1, 2, 0};
+        Due.is("order(2, -1): 2 times 2, 1 twice times 2", middle.order(2, -1), 297 + 4 + 4);
+        for (int k = 0; k <= 2; k++) {
+            Due.is("order(2, " + k + "): neither the first way nor the last", middle.order(2, k), widestFirst[k]);
+        }
         Due.by("to twice WATER as told at most");
         ForeRain most = Probe.told("piece 5 9 1;piece 99 8 1;piece 99 8 1;spot 9 0;spot 9 0;spot 9 0;");
         for (int i = 0; i <= 2; i++) {
@@ -356,6 +371,11 @@ public final class ForeRainForetoldEdges {
             ForeRain x = hung("6 1 1", 2, sky);
             Due.is("odds(1, 3, 0): RAIN in STEP " + step, x.odds(1, 3, 0), uppers[step]);
             Due.is("odds(1, 3, 1): RAIN in STEP " + step, x.odds(1, 3, 1), lowers[step]);
+        }
+        for (int sun = 0; sun <= 9; sun += 9) {
+            // 20 10 1 0: the second STEP begins with DAMP 1
+            ForeRain shines = hung("20 1 1", 1, "sun " + sun + " 2;sun 9 1;rain 1 1;");
+            Due.is("odds(1, 3, 1): SUN " + sun + " is no RAIN", shines.odds(1, 3, 1), sun == 0 ? 1 : 27);
         }
         ForeRain far = hung("23 1 1", 1, "sun 0 21;rain 1 1;");
         Due.is("odds(1, 3, 0): RAIN in STEP 21, beyond 18", far.odds(1, 3, 0), 0);

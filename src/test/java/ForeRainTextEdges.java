@@ -229,7 +229,12 @@ public final class ForeRainTextEdges {
         fault("sun 1 1;;", 8);
         fault("sun 1 1; ;", 9);
         fault("sun 1 1 sun 1 1;", 8);
-        fault("sun 1 1,", 7);
+        for (int sign = 0; sign <= 255; sign++) {
+            if (sign != ' ' && sign != ';' && !(sign >= '0' && sign <= '9')) {
+                fault("sun 1 1" + (char) sign, 7);
+                fault("sun 1 1 " + (char) sign, 8);
+            }
+        }
         fault("piece 1 1 1 1;", 12);
         fault("piece 1 1;", 9);
         fault("spot 1 1 1;", 9);
@@ -343,6 +348,13 @@ public final class ForeRainTextEdges {
     private static void noneOfThese() {
         Due.by("a word that is none of these");
         fault("p", 0);
+        for (String item : new String[] {"piece 1 1 1;", "spot 1 1;", "sun 1 1;", "rain 1 1;"}) {
+            for (int at = 0; item.charAt(at) != ' '; at++) {
+                fault(item.substring(0, at) + "x" + item.substring(at + 1), 0);
+                fault(item.substring(0, at) + "x" + item.substring(at), 0);
+                fault(item.substring(0, at) + (char) (item.charAt(at) - 1) + item.substring(at + 1), 0);
+            }
+        }
         fault("piec 1 1 1;", 0);
         fault("pieces 1 1 1;", 0);
         fault("iece 1 1 1;", 0);
