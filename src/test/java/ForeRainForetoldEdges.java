@@ -171,6 +171,11 @@ public final class ForeRainForetoldEdges {
         Due.is("where(1, -1): 1 and 27 less", swap.where(1, -1), 32);
         Due.is("where(1, 0)", swap.where(1, 0), 1);
         Due.is("where(1, 1)", swap.where(1, 1), 0);
+        ForeRain other = Probe.told("piece 36 6 2;piece 27 7 3;spot 8 8;");
+        other.hang(1, 0);
+        Due.is("where(2, -1): 16 and 14 less, not 24 and 3", other.where(2, -1), 63 - 30);
+        Due.is("where(2, 0): what hangs NOW does not damp the air", other.where(2, 0), 0);
+        Due.is("where(2, 1)", other.where(2, 1), BASKET);
         ForeRain six = Probe.told("piece 9 1 1;piece 9 1 1;piece 9 1 1;piece 9 1 1;piece 9 1 1;piece 9 1 2;"
             + "spot 1 3;".repeat(5));
         Due.is("where(1, -1): six for five", six.where(1, -1), 54 - 18);
@@ -179,6 +184,19 @@ public final class ForeRainForetoldEdges {
             Due.is("where(1, " + i + ")", six.where(1, i), i - 1);
         }
         Due.is("where(1, 6)", six.where(1, 6), BAD);
+        // an object that was asked for far more WATER ahead
+        ForeRain fewer = Probe.told("piece 99 1 1;".repeat(6) + "spot 1 0;".repeat(5));
+        for (int pieces = 6; pieces >= 1; pieces--) {
+            Due.is("where(1, -1) of 99 each", fewer.where(1, -1), 99 * fewer.count(0));
+            Probe.tell(fewer, "piece 9 1 1;".repeat(pieces) + "spot 1 3;");
+            Due.is("where(1, -1) of " + pieces, fewer.where(1, -1), 9 * pieces - 3);
+            Due.is("where(1, " + (pieces - 1) + ")", fewer.where(1, pieces - 1), 0);
+            Probe.tell(fewer, "piece 99 1 1;".repeat(pieces) + "spot 1 0;");
+        }
+        Due.is("where(1, -1) of one", fewer.where(1, -1), 99);
+        Probe.tell(fewer, "piece 9 1 2;piece 9 1 1;spot 1 3;");
+        Due.is("where(1, -1) of two: 6 less", fewer.where(1, -1), 12);
+        Due.is("where(1, 0)", fewer.where(1, 0), 0);
         ForeRain one = Probe.told("piece 9 1 1;piece 9 1 2;spot 9 3;");
         Due.is("where(1, -1): one at a SPOT", one.where(1, -1), 12);
         Due.is("where(1, 0)", one.where(1, 0), BASKET);
