@@ -702,9 +702,9 @@ public final class ForeRain {
             start = next;
             if (next >= length) {
                 token = END;
-            } else if (isLetter(next)) {
+            } else if (isLetter(bytes[next])) {
                 scanWord();
-            } else if (isDigit(next)) {
+            } else if (isDigit(bytes[next])) {
                 scanNumber();
             } else {
                 token = bytes[next] == ';' ? SEMICOLON : WRONG;
@@ -714,14 +714,14 @@ public final class ForeRain {
 
         private void scanWord() {
             token = WORD;
-            while (next < length && isLetter(next)) {
+            while (next < length && isLetter(bytes[next])) {
                 next++;
             }
         }
 
         private void scanNumber() {
             value = 0;
-            while (next < length && isDigit(next)) {
+            while (next < length && isDigit(bytes[next])) {
                 value = Math.min(100, 10 * value + bytes[next] - '0');
                 next++;
             }
@@ -729,12 +729,12 @@ public final class ForeRain {
             token = zeroAhead || value > 99 ? WRONG : NUMBER;
         }
 
-        private boolean isLetter(int at) {
-            return within(at, 0, length - 1) && within(bytes[at], 'a', 'z');
+        private static boolean isLetter(byte sign) {
+            return sign >= 'a' && sign <= 'z';
         }
 
-        private boolean isDigit(int at) {
-            return within(at, 0, length - 1) && within(bytes[at], '0', '9');
+        private static boolean isDigit(byte sign) {
+            return sign >= '0' && sign <= '9';
         }
 
         private boolean isWord(String word) {

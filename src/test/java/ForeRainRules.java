@@ -8,7 +8,9 @@ import java.nio.file.Path;
 import java.util.ArrayList;
 import java.util.Arrays;
 import java.util.List;
+import java.util.Map;
 import java.util.Set;
+import java.util.TreeMap;
 import java.util.TreeSet;
 import java.util.regex.Matcher;
 import java.util.regex.Pattern;
@@ -30,6 +32,7 @@ public final class ForeRainRules {
         "Integer", "Long", "Thread", "Runtime", "var"};
     private static final Set<String> CALLS_OF_LIBRARY = Set.of("Math.min", "Math.max", "System.arraycopy");
     private static int wrong = 0;
+    private static int methods = 0;
 
     private static void rule(int number, boolean kept, String what) {
         if (!kept) {
@@ -93,6 +96,7 @@ public final class ForeRainRules {
             rule(1, one == ForeRain.class && Modifier.isPublic(method.getModifiers())
                 || !names.contains(method.getName()), method + " bears the name of a public one");
             rule(11, method.getParameterCount() <= 7, method + " takes more than seven");
+            methods += method.isSynthetic() ? 0 : 1;
         }
         int fields = 0;
         for (Field field : one.getDeclaredFields()) {
@@ -122,21 +126,69 @@ public final class ForeRainRules {
         while (calls.find()) {
             rule(4, CALLS_OF_LIBRARY.contains(calls.group()), calls.group() + " is not among what this class uses");
         }
-        methodsAreShort(code);
+        theMethods(bodiesOf(code));
     }
 
-    private static void methodsAreShort(String code) {
+    private static void theMethods(List<Body> bodies) {
+        Map<String, Set<String>> calls = callsOf(bodies);
+        for (Body body : bodies) {
+            rule(11, body.lines <= 60, "a method of " + body.lines + " lines: " + body.name);
+            rule(12, body.constructor || !body.text.matches("(?s).*\\bnew\\b.*"), body.name + " makes an object");
+            List<String> chain = deepest(body.name, calls, List.of());
+            rule(11, chain.size() <= 8, "calls go " + chain.size() + " deep: " + chain);
+        }
+        long found = bodies.stream().filter(body -> !body.constructor).count();
+        rule(11, found == methods, "of " + methods + " methods " + found + " were found in the source");
+        rule(11, deepest("day", calls, List.of()).size() >= 7, "the calls of day() were not found");
+    }
+
+    private record Body(String name, boolean constructor, int lines, String text) { }
+
+    private static List<Body> bodiesOf(String code) {
+        Pattern header = Pattern.compile(" +(?:[\\w\\[\\]]+ )*(\\w+)\\([\\w\\[\\], ]*\\) \\{");
+        List<Body> bodies = new ArrayList<>();
         String[] lines = code.split("\n");
         for (int from = 0; from < lines.length; from++) {
-            if (!lines[from].matches(" +[\\w\\[\\] ]+\\([\\w\\[\\], ]*\\) \\{") || lines[from].contains(" if ")) {
+            Matcher matcher = header.matcher(lines[from]);
+            if (!matcher.matches() || lines[from].matches(".* (if|while|for|switch) .*")) {
                 continue;
             }
             int indent = lines[from].indexOf(lines[from].trim());
-            int to = from;
-            while (to < lines.length && !lines[to].equals(" ".repeat(indent) + "}")) {
-                to++;
+            StringBuilder text = new StringBuilder();
+            int to = from + 1;
+            for (; to < lines.length && !lines[to].equals(" ".repeat(indent) + "}"); to++) {
+                text.append(lines[to]).append('\n');
             }
-            rule(11, to - from <= 60, "a method of " + (to - from) + " lines: " + lines[from].trim());
+            boolean constructor = matcher.group(1).matches("[A-Z]\\w*");
+            bodies.add(new Body(matcher.group(1), constructor, to - from, text.toString()));
         }
+        return bodies;
+    }
+
+    /** By names alone: methods of one name count as one, so a chain may seem longer, never shorter. */
+    private static Map<String, Set<String>> callsOf(List<Body> bodies) {
+        Map<String, Set<String>> calls = new TreeMap<>();
+        for (Body body : bodies) {
+            Set<String> called = calls.computeIfAbsent(body.name, name -> new TreeSet<>());
+            Matcher matcher = Pattern.compile("\\b(\\w+)\\(").matcher(body.text);
+            while (matcher.find()) {
+                called.add(matcher.group(1));
+            }
+        }
+        return calls;
+    }
+
+    /** The longest chain of calls from a method, itself included; one that calls itself counts once. */
+    private static List<String> deepest(String name, Map<String, Set<String>> calls, List<String> open) {
+        List<String> path = new ArrayList<>(open);
+        path.add(name);
+        List<String> longest = path;
+        for (String called : calls.getOrDefault(name, Set.of())) {
+            if (calls.containsKey(called) && !path.contains(called)) {
+                List<String> longer = deepest(called, calls, path);
+                longest = longer.size() > longest.size() ? longer : longest;
+            }
+        }
+        return longest;
     }
 }
